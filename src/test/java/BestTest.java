@@ -136,6 +136,11 @@ public final class BestTest {
     due("21: one from it", y.swaps(), 1);
     y.swap(0, 3);
     due("21: two from it", y.swaps(), 2);
+    WallsOfPrisoners first = likeness(20, 10, 12, 14, 16, 18, 20);
+    first.swap(2, 3);
+    first.swap(2, 5);
+    first.swap(0, 5);
+    due("21: one, by who stands first", first.swaps(), 1);
     WallsOfPrisoners z = likeness(20, 10, 12, 14, 16, 18, 20);
     z.swap(4, 2);
     due("21: more than two from it", z.swaps(), -1);
@@ -152,6 +157,8 @@ public final class BestTest {
     due("22: lowest terms, below", x.mean(1), 1);
     x.out(0);
     due("22: of those who stand there", x.mean(0) * 10 + x.mean(1), 232);
+    WallsOfPrisoners alone = Prison.of(8);
+    due("22: alone", alone.mean(0) * 10 + alone.mean(1), 81);
     WallsOfPrisoners y = Prison.of(0, 0);
     due("22: 0", y.mean(0), 0);
     due("22: 0 by 1", y.mean(1), 1);

@@ -36,10 +36,11 @@ public final class HostTest {
     WallsOfPrisoners x = new WallsOfPrisoners();
     for (int sort = 0; sort < 3; sort++) {
       due("30: sheet(" + sort + ", " + sort + ", 40)", x.sheet(sort, sort, 40), 1);
+      due("30: the first item", x.cell(sort, 0, 5), 1);
       due("30: the last item", x.cell(sort, 39, 5), 1);
       due("30: no item more", x.cell(sort, 40, 5), -12);
       due("30: anew", x.sheet(sort, sort, 40), 1);
-      due("30: all 0", item(x, sort, sort, 39), 0);
+      due("30: all 0", item(x, sort, sort, 0) + item(x, sort, sort, 39), 0);
       due("30: no items", x.sheet(sort, sort, 0), 1);
       due("30: no item", x.cell(sort, 0, 5), -12);
     }

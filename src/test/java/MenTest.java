@@ -177,6 +177,10 @@ public final class MenTest {
     }
     x.set(0, 0, 7);
     due("6: TWIN, HOUR odd", x.hands(3, 12), 9);
+    x.set(0, 0, 2);
+    due("6: TWIN, HOUR 2", x.hands(3, 12), 12);
+    x.set(0, 0, 9);
+    due("6: TWIN, HOUR 9", x.hands(3, 12), 9);
     due("6: BROTHER, HOUR odd", x.hands(1, 12), 12);
     due("6: TWIN, HOUR odd, below 0", x.hands(3, 2), 0);
     x.out(0);

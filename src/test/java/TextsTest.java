@@ -82,6 +82,8 @@ public final class TextsTest {
     fault("gripsstrength;", 0);
     fault("grips nex" + REST, 6);
     fault("grips nextt" + REST, 6);
+    fault("grips coldz" + REST, 6);
+    fault("grips colda" + REST, 6);
     fault("grips 12345" + REST, 6);
     fault("grips 00000" + REST, 6);
     fault("grips 1 12345", 8);
@@ -206,6 +208,11 @@ public final class TextsTest {
     worth("(1 or 0) and 0", 0);
     worth("not 0 and 0", 0);
     worth("50+(2 or 3)", 51);
+    worth("50+(0 or 0)", 50);
+    worth("50+(7 and 0)", 50);
+    worth("50+(3<2)", 50);
+    worth("50+(3=2)", 50);
+    worth("50+(not 7)", 50);
     worth("0 or 0 or 4", 1);
     worth("9999*9999*43<9999*9999", 1);
     worth("9999*9999*22<0", 1);

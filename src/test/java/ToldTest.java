@@ -141,6 +141,8 @@ public final class ToldTest {
     for (int n = 0; n < want.length; n++) due("25: drawn(1, " + n + ")", x.drawn(1, n), want[n]);
     due("25: in thought", Prison.ring(x), 123456);
     due("25: drawn(2, 6)", x.drawn(2, 6), 74);
+    due("25: drawn(7, 2)", x.drawn(7, 2), 81);
+    due("25: drawn(7, 3)", x.drawn(7, 3), 65);
     x.out(5);
     int[] five = {74, 74, 81};
     for (int n = 0; n < 3; n++) due("25: five, drawn(-5, " + n + ")", x.drawn(-5, n), five[n]);
@@ -165,6 +167,7 @@ public final class ToldTest {
     due("26: both, lowest terms", x.chance(1, 2, 65, 0) * 10 + x.chance(1, 2, 65, 1), 11);
     due("26: none, lowest terms", x.chance(1, 2, 75, 0) * 10 + x.chance(1, 2, 75, 1), 1);
     due("26: k or more", x.chance(2, 1, 74, 0), 1);
+    due("26: k 99", x.chance(2, 1, 99, 0), 0);
     int good = 0;
     for (int i = 0; i < 40; i++) if (x.drawn(MAX - 20 + i, 6) >= 74) good++;
     due("26: over the last int, as often as drawn() tells", x.chance(MAX - 20, 40, 74, 0) * 40, good * x.chance(MAX - 20, 40, 74, 1));
