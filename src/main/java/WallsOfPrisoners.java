@@ -42,6 +42,7 @@ public final class WallsOfPrisoners {
     private static final int PARTS = 3;
     private static final int GRIPS_PART = 0, HANDS_PART = 1, TIRES_PART = 2;
     private static final int OPEN_AT_MOST = 5;
+    private static final int STACK_ROOM = 64;
     private static final String FIRST_TEXT = "grips strength - cold ; hands 3 ; tires 1 ;";
 
     private static final int STRENGTH = 0, NEXT = 1, NUMBER = 2, HOUR = 3, COLD = 4, MANY = 5;
@@ -118,7 +119,7 @@ public final class WallsOfPrisoners {
             case OF_SPENT:
                 return marsh.has(of) ? marsh.spentBy(of) : NO_SUCH;
             case OF_STANDING:
-                return of >= 0 && of < marsh.standing ? marsh.ring[of] : NO_SUCH;
+                return marsh.who(of) != NONE ? marsh.who(of) : NO_SUCH;
             case OF_HOLD:
                 return of >= 0 && of < marsh.holds() ? marsh.holdFrom(of) : NO_SUCH;
             default:
@@ -197,8 +198,7 @@ public final class WallsOfPrisoners {
         if (one == other || place == NONE || otherPlace == NONE) {
             return BAD;
         }
-        marsh.ring[place] = other;
-        marsh.ring[otherPlace] = one;
+        marsh.exchange(place, otherPlace);
         return marsh.weakest();
     }
 
@@ -236,7 +236,7 @@ public final class WallsOfPrisoners {
         int coming = marsh.standing < 2 ? 0 : hard;
         for (; got < SNEEZES_HANDED && coming > 0; got++) {
             place = marsh.placeBehind(place);
-            last = marsh.ring[place];
+            last = marsh.who(place);
             lastHard = coming;
             coming = marsh.handedOn(last, coming);
         }
@@ -334,7 +334,7 @@ public final class WallsOfPrisoners {
         }
         int together = 0;
         for (int place = 0; place < marsh.standing; place++) {
-            together += marsh.trait(OF_STRENGTH, marsh.ring[place]);
+            together += marsh.trait(OF_STRENGTH, marsh.who(place));
         }
         return lowestTerm(together, marsh.standing, part);
     }
@@ -664,6 +664,10 @@ public final class WallsOfPrisoners {
             }
         }
 
+        int who(int place) {
+            return place >= 0 && place < standing && place < MEN_ROOM ? ring[place] : NONE;
+        }
+
         int placeOf(int one) {
             for (int place = 0; place < standing && place < MEN_ROOM; place++) {
                 if (ring[place] == one) {
@@ -678,7 +682,7 @@ public final class WallsOfPrisoners {
         }
 
         void leave(int place) {
-            if (place < 0 || place >= standing) {
+            if (place < 0 || place >= standing || standing > MEN_ROOM) {
                 return;
             }
             standing--;
@@ -698,10 +702,19 @@ public final class WallsOfPrisoners {
             standing++;
         }
 
+        void exchange(int place, int other) {
+            int one = who(place);
+            int two = who(other);
+            if (one != NONE && two != NONE) {
+                ring[place] = two;
+                ring[other] = one;
+            }
+        }
+
         /** Nobody's being SPENT hangs on another one, so that all are told ahead though one by one. */
         void passHour() {
-            for (int place = 0; place < standing && place < MEN_ROOM; place++) {
-                int one = ring[place];
+            for (int place = 0; place < standing; place++) {
+                int one = who(place);
                 if (has(one)) {
                     strength[one] = Math.max(0, strength[one] - spentBy(one));
                 }
@@ -714,11 +727,8 @@ public final class WallsOfPrisoners {
         }
 
         int holdFrom(int place) {
-            if (place < 0 || place >= standing) {
-                return NONE;
-            }
-            int one = ring[place];
-            int other = ring[placeBehind(place)];
+            int one = who(place);
+            int other = who(placeBehind(place));
             return Math.min(gripOf(one, other), gripOf(other, one));
         }
 
@@ -975,8 +985,6 @@ public final class WallsOfPrisoners {
 
     /** All TEXTS, each as the CODES of its three parts, what is done standing behind what it is done to. */
     private static final class Texts {
-        static final int STACK_ROOM = 64;
-
         final int[] codes = new int[TEXTS * TAPE_ROOM];
         final int[] ends = new int[TEXTS * PARTS];
         final int[] stack = new int[STACK_ROOM];
