@@ -29,6 +29,7 @@ public final class HoldsTest {
     mean();
     drawnBySeeds();
     inSeeds();
+    badAheadOfNone();
     CHECKS.end("HoldsTest");
   }
 
@@ -129,6 +130,10 @@ public final class HoldsTest {
     due("20: two, of like ones the first", x.letsIn(2, 0), 1);
     due("25: two", x.drawn(5, 3), 5);
     due("12: two", x.swap(0, 1), 5);
+    WallsOfPrisoners apart = likeness(40, 10, 11, 13, 16);
+    due("12: WEAKEST then, not ahead", apart.swap(2, 3), 15);
+    due("12: WEAKEST is that", apart.wall(0), 15);
+    due("12: and back again", apart.swap(3, 2), 4);
     due("18: two, the first one stays", x.order(0), 21);
     int[] sneeze = {3, 1, 1};
     for (int what = 0; what < 3; what++) due("15: two, " + what, x.sneeze(0, 7, what), sneeze[what]);
@@ -441,6 +446,21 @@ public final class HoldsTest {
       }
       due("25: in thought", Prison.ring(x) % 10, standing);
     }
+  }
+
+  private static void badAheadOfNone() {
+    for (WallsOfPrisoners x : new WallsOfPrisoners[] {new WallsOfPrisoners(), Prison.of(5)}) {
+      due("25: BAD, though fewer than two stand there", x.drawn(1, 41), -2);
+      due("25: BAD below 0, though fewer than two stand there", x.drawn(1, -1), -2);
+      due("18: BAD, though fewer than two stand there", x.order(2), -2);
+      due("19: BAD, though fewer than three stand there", x.let(2), -2);
+      due("14: BAD, though fewer than two stand there", x.wall(4), -2);
+      due("26: NO, though fewer than two stand there", x.chance(1, 0, 0, 0), NO);
+    }
+    WallsOfPrisoners y = Prison.of(5);
+    y.out(0);
+    due("20: BAD, though nobody stands there", y.letsIn(0, 2), -2);
+    due("22: NO, though nobody stands there", y.mean(2), NO);
   }
 
   private static void inSeeds() {

@@ -20,6 +20,8 @@ public final class KindsTest {
     spentOfLonger();
     whatTextsTellIsBounded();
     strengthStaysAboveZero();
+    nextOfHandsAndTires();
+    namesAreOnesOwn();
     CHECKS.end("KindsTest");
   }
 
@@ -220,6 +222,50 @@ public final class KindsTest {
     due("tires 99 is 99", spent("99", BROTHER, 0), 49);
     due("tires 100 is 99", spent("100", BROTHER, 0), 49);
     due("tires 9999 is 99", spent("9999", BROTHER, 0), 49);
+  }
+
+  private static void nextOfHandsAndTires() {
+    WallsOfPrisoners x = Prison.of(40, 50, 60);
+    Prison.rule(x, "grips next;hands next;tires next;");
+    for (int one = 0; one < 3; one++) {
+      due("next of grips is the other one's STRENGTH", x.grips(one, (one + 1) % 3), 40 + 10 * ((one + 1) % 3));
+      due("next of grips, the other way", x.grips(one, (one + 2) % 3), 40 + 10 * ((one + 2) % 3));
+      due("next of hands is 0", x.hands(one, 70), 70);
+      due("next of tires is 0", x.told(one, 6), 0);
+    }
+    x.out(1);
+    due("next of grips, of one who is OUT", x.grips(0, 1), 50);
+    due("13: nobody is SPENT", x.hour() * 100 + x.told(0, 3), 4040);
+  }
+
+  private static void namesAreOnesOwn() {
+    WallsOfPrisoners x = new WallsOfPrisoners();
+    for (int one = 0; one < 6; one++) x.man(MAN, 9 - one, 10 + one);
+    Prison.rule(x, "grips number*10;hands number;tires strength;");
+    for (int one = 0; one < 6; one++) {
+      due("number of grips, of " + one, x.grips(one, 5 - one), 90 - 10 * one);
+      due("number of hands, of " + one, x.hands(one, 50), 41 + one);
+      due("strength of tires, of " + one, x.told(one, 6), 10 + one);
+    }
+    Prison.rule(x, "grips strength;hands strength;tires number;");
+    for (int one = 0; one < 6; one++) {
+      due("strength of grips, of " + one, x.grips(one, 5 - one), 10 + one);
+      due("strength of hands, of " + one, x.hands(one, 50), 40 - one);
+      due("number of tires, of " + one, x.told(one, 6), 9 - one);
+    }
+    Prison.rule(x, "grips hour+2*cold;hands hour+2*cold;tires hour+2*cold;");
+    x.set(0, 0, 5);
+    x.set(1, 0, 7);
+    due("hour and cold of grips", x.grips(0, 1), 19);
+    due("hour and cold of hands", x.hands(0, 50), 31);
+    due("hour and cold of tires", x.told(0, 6), 19);
+    Prison.rule(x, "grips many;hands many;tires many;");
+    for (int standing = 6; standing >= 0; standing--) {
+      due("many of grips", x.grips(0, 1), standing);
+      due("many of hands", x.hands(0, 50), 50 - standing);
+      due("many of tires", x.told(0, 6), standing);
+      if (standing > 0) x.out(standing - 1);
+    }
   }
 
   private static void strengthStaysAboveZero() {

@@ -220,6 +220,9 @@ public final class RowsTest {
       if (n > 0) due("24: of " + n + ", as they are", x.tells(n % 4, 0, 0), -1);
       if (there > 0) due("24: of " + n + ", the last item", x.cell(n % 4, there - 1, 0), 1);
       if (there > 0) due("24: of " + n + ", the last item was told", x.tells(n % 4, 0, 0), there - 1);
+      for (int one = 0; one < n; one++) x.set(3, one, 0);
+      due("24: of " + n + ", GATES", x.film(n % 4), there);
+      if (n > 0) due("24: of " + n + ", GATES as they are", x.tells(n % 4, 0, 0), -1);
     }
   }
 
@@ -462,6 +465,7 @@ public final class RowsTest {
       WallsOfPrisoners x = new WallsOfPrisoners();
       x.sheet(0, 0, size);
       due("33: too few items for one, " + size, x.chain(0, 0, 0, 1), -12);
+      for (int from : new int[] {MIN, -1, 0, size, 3, MAX}) due("33: none, from " + from, x.chain(0, 0, from, 0), 0);
       due("33: nobody came", x.count(0), 0);
     }
     WallsOfPrisoners x = new WallsOfPrisoners();

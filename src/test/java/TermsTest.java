@@ -93,7 +93,7 @@ public final class TermsTest {
     due("LONGER is MAN by NEWCOMER between", asked(4, 0), 7);
     due("TWIN is no NEWCOMER", asked(3, 2), -13);
     due("LONGER is no BROTHER", asked(4, 1), -13);
-    due("GIANT is no BROTHER", asked(5, 1), -13);
+    for (int k = 1; k < 5; k++) due("GIANT is no KIND " + k, asked(5, k), -13);
     due("BROTHER is no NEWCOMER", asked(1, 2), -13);
   }
 
@@ -152,6 +152,14 @@ public final class TermsTest {
     x.hour();
     due("not SPENT again", x.told(0, 3), 50);
     due("what SPENT would be is told", x.told(0, 6), 1);
+    due("but it GRIPS, both of MEN, anywhere", x.grips(0, 1), 50);
+    due("and is gripped", x.grips(1, 0), 18);
+    due("and HANDS ON what comes", x.hands(0, 9), 6);
+    due("and is taken for a MAN", x.taken(0, 0), 0);
+    due("and has its KIND", x.told(0, 4), 0);
+    due("and has its STRENGTH in thought", x.run(3, 10), 50);
+    due("and a NUMBER that becomes another one", x.set(2, 0, 9), 0);
+    due("and is let OUT no more", x.out(0), -3);
   }
 
   /** The last numbers on each side that a call takes are answered as no refusal is. */
@@ -232,7 +240,10 @@ public final class TermsTest {
         due("32: none of none", x.copy(sheet, 0, sheet, 0, 0), 0);
         due("33: none of none", x.chain(sheet, sort, 0, 0), 0);
       }
-      due("30: missing", x.sheet(sheet, -1, 1), 1);
+      for (int n : new int[] {MIN, -1, 41, MAX, 0}) {
+        due("30: missing, n " + n + " does not matter", x.sheet(sheet, -1, n), 1);
+        due("30: it is missing", x.cell(sheet, 0, 1), -11);
+      }
       due("24: film", x.film(sheet), 0);
       due("23: tells", x.tells(sheet, 0, 0), -1);
     }
