@@ -23,6 +23,7 @@ public final class FaultsTest {
     betweenOnesNothingOpens();
     oneComparisonAtMost();
     numbersOfTexts();
+    aFaultLeavesNothing();
     thirtyTwoBits();
     truth();
     orderOfSigns();
@@ -308,6 +309,23 @@ public final class FaultsTest {
     due("9: a refusal changes nothing", x.count(5), 5);
     due("9: TEXT 0 again", x.force(0), 5);
     due("9: TEXT 0 is as it was", x.grips(0, 1), 42);
+  }
+
+  /** A TEXT behind one that was none: nothing of that is read with it, however far that had come. */
+  private static void aFaultLeavesNothing() {
+    String[] none = {"grips", "grips 7 7", "grips not 7;hands -2 x", "grips 1;hands 1;tires -5 x", "grips 1;hands 1;tires not 5;x",
+        "grips 1;hands 1;tires 9-5+3*2<1;1", "grips 1+1+1;hands 2*2*2;tires 3 or 3 or 3 and"};
+    for (String ahead : none) {
+      WallsOfPrisoners x = Prison.of(50, 40);
+      due("8: '" + ahead + "' is none", Prison.text(x, ahead) <= -100 ? 1 : 0, 1);
+      due("8: a TEXT behind '" + ahead + "'", Prison.text(x, "grips 30;hands 3;tires 5;"), 1);
+      x.force(1);
+      due("8: how hard, behind '" + ahead + "'", x.grips(0, 1), 30);
+      due("8: how much is handed on, behind '" + ahead + "'", x.hands(0, 50), 47);
+      due("8: how much is SPENT, behind '" + ahead + "'", x.told(0, 6), 5);
+      x.force(0);
+      due("8: TEXT 0, behind '" + ahead + "'", x.grips(0, 1), 50);
+    }
   }
 
   /** How hard a MAN grips by an E; STRENGTH 30, of the other one 50, NUMBER 3, HOUR 5, COLD 7, three stand there. */

@@ -324,6 +324,9 @@ public final class HoldsTest {
     due("18: how hard, by the worst", y.order(1), 36);
     y.swap(0, 3);
     due("18: another one stays first", y.order(0), 4132);
+    WallsOfPrisoners z = likeness(40, 10, 10, 13, 12);
+    due("18: of like ones the first, also where the last HOLD round is the weakest of a later one", z.order(0), 1234);
+    due("18: how hard, of those", z.order(1), 31);
     due("18: 99", Prison.of(99, 99, 99).order(1), 99);
   }
 
