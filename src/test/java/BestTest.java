@@ -62,6 +62,9 @@ public final class BestTest {
     due("19: the weakest", x.let(0), 1);
     due("19: how hard", x.let(1), 20);
     due("19: in thought", Prison.ring(x), 1234);
+    x.swap(0, 1);
+    due("19: who, not the PLACE", x.let(0), 1);
+    x.swap(0, 1);
     x.set(3, 3, 10);
     due("19: of like ones", x.let(0), 0);
     x.swap(0, 3);

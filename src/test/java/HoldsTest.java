@@ -19,6 +19,7 @@ public final class HoldsTest {
     gates();
     sneezeOfSixty();
     sneezeEnds();
+    sneezeByPlaces();
     anHour();
     hoursInThought();
     opens();
@@ -231,6 +232,18 @@ public final class HoldsTest {
     sneezes("HOUR 1, told as all is", y, 1, 3, 2, 3, 3);
     y.set(0, 0, 2);
     sneezes("HOUR 2, told as all is", y, 1, 3, 60, 1, 3);
+  }
+
+  /** THE RING is 2, 1, 0: who stands at a PLACE isn't numbered as it. */
+  private static void sneezeByPlaces() {
+    WallsOfPrisoners x = new WallsOfPrisoners();
+    x.man(1, 0, 10);
+    x.man(0, 0, 10);
+    x.man(2, 0, 10);
+    x.swap(0, 2);
+    sneezes("20, 8, 5, 5 and 1, as who stands there hands on", x, 0, 20, 5, 1, 1);
+    sneezes("20, 20, 8, 5, 5 and 1", x, 1, 20, 6, 1, 1);
+    sneezes("20, 17, 17, 7, 4 and 4", x, 2, 20, 6, 2, 4);
   }
 
   private static void anHour() {
