@@ -20,6 +20,7 @@ public final class FaultsTest {
     firstOfTwoFaults();
     fiveOpen();
     whatEndsIsOpenNoMore();
+    fiveOpenBehindEachSign();
     betweenOnesNothingOpens();
     oneComparisonAtMost();
     numbersOfTexts();
@@ -27,6 +28,8 @@ public final class FaultsTest {
     thirtyTwoBits();
     truth();
     orderOfSigns();
+    rowsOfSigns();
+    whatWaits();
     CHECKS.end("FaultsTest");
   }
 
@@ -242,6 +245,22 @@ public final class FaultsTest {
     right("grips (-1)*(-(-(1)))" + REST);
   }
 
+  /** Behind the first sign, and behind the third one of a row, as many may be opened as ahead of it. */
+  private static void fiveOpenBehindEachSign() {
+    for (String sign : new String[] {" or ", " and ", "+", "-", "*", "<", "="}) {
+      boolean inRows = !sign.equals("<") && !sign.equals("=");
+      for (int open = 0; open <= 5; open++) {
+        for (String ahead : inRows ? new String[] {"1" + sign, "1" + sign + "1" + sign + "1" + sign} : new String[] {"1" + sign}) {
+          String from = "grips " + "(".repeat(open) + ahead + "(".repeat(5 - open);
+          String till = ")".repeat(5) + REST;
+          right(from + "2" + till);
+          faultAt(from + "!(2)" + till);
+          faultAt(from + "!-2" + till);
+        }
+      }
+    }
+  }
+
   private static void betweenOnesNothingOpens() {
     right("grips (((((1-1)))))" + REST);
     right("grips (((((1-1-1-1-1-1-1-1)))))" + REST);
@@ -419,5 +438,30 @@ public final class FaultsTest {
     worth("hour", 5);
     worth("cold", 7);
     worth("many", 3);
+  }
+
+  /** Rows of one sign, up to as many as THE TAPE holds. */
+  private static void rowsOfSigns() {
+    for (int n = 1; n <= 60; n++) {
+      worth("0" + "+1".repeat(n), n);
+      worth("90" + "-1".repeat(n), 90 - n);
+      worth("7" + "*1".repeat(n), 7);
+      worth("1" + "*2".repeat(n) + "=0", n > 31 ? 1 : 0);
+      if (n <= 33) worth("0" + "or 0".repeat(n), 0);
+      if (n <= 33) worth("0" + "or 0".repeat(n - 1) + "or 1", 1);
+      if (n <= 26) worth("1" + "and 1".repeat(n), 1);
+      if (n <= 26) worth("1" + "and 1".repeat(n - 1) + "and 0", 0);
+    }
+  }
+
+  /** So many ahead of what is told first wait for it: five more in each ( . */
+  private static void whatWaits() {
+    String five = "0or 1and 0<0+2*";
+    for (int open = 0; open <= 5; open++) {
+      worth((five + "(").repeat(open) + five + "9" + ")".repeat(open), 1);
+      worth((five + "(").repeat(open) + five + "0" + ")".repeat(open), 0);
+    }
+    worth("30+(7-(6-(5-(4-(3-2*1)))))", 33);
+    worth("50-(40-(30-(20-(10-(5-1)))))", 26);
   }
 }

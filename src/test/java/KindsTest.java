@@ -236,6 +236,12 @@ public final class KindsTest {
     x.out(1);
     due("next of grips, of one who is OUT", x.grips(0, 1), 50);
     due("13: nobody is SPENT", x.hour() * 100 + x.told(0, 3), 4040);
+    WallsOfPrisoners y = Prison.of(40, 50, 60, 70, 80, 90);
+    Prison.rule(y, "grips next;hands next;tires next;");
+    for (int one = 0; one < 6; one++) {
+      due("of six, next of hands is 0", y.hands(one, 70), 70);
+      due("of six, next of tires is 0", y.told(one, 6), 0);
+    }
   }
 
   private static void namesAreOnesOwn() {
